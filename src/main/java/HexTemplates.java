@@ -163,6 +163,7 @@ public final class HexTemplates {
     }
 
     public int follow(int node) throws IndexOutOfBoundsException, IllegalStateException {
+        checkNode(node);
         checkReference(node);
         Template read = chosenTemplate();
         int structure = reader.structureTold(reader.table.field[node]);
@@ -171,6 +172,7 @@ public final class HexTemplates {
     }
 
     public int chain(int node) throws IndexOutOfBoundsException, IllegalStateException {
+        checkNode(node);
         checkReference(node);
         Template read = chosenTemplate();
         int structure = reader.structureTold(reader.table.field[node]);
@@ -361,7 +363,6 @@ public final class HexTemplates {
     }
 
     private void checkReference(int node) {
-        checkNode(node);
         if (reader.table.kind[node] != REFERENCE) {
             throw new IllegalStateException("it is no reference");
         }
