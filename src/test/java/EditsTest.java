@@ -226,6 +226,12 @@ public final class EditsTest {
         Check.file("24 by a length", y, first(40, 4, 4));
         Check.state("20 five times", () -> y.set(4, 2));
         Check.due("20 refused", y.state(), 1);
+        // the length of the structure with the string is told ahead of the four times
+        HexTemplates ahead = Check.with("F{w:b=#z;x:b=#y;y:Y;z:s(x);}"
+            + "Y{l:b=#a;b:b=#t;c:b=#u;d:b=#v;a:A;t:s(l);u:s(b);v:s(c);}A{s:z;}", first(60, 8, 8, 1, 1, 1, 1));
+        Check.due("14 all are right", ahead.wrong(), 0);
+        Check.due("21 four times behind a length", ahead.insert(9, 0, 5), 1);
+        Check.file("21 all are right", ahead, first(61, 12, 12, 2, 2, 2, 2, 5));
         HexTemplates z = Check.with("F{n:b=#s;s:s(n+1);}", zeros);
         Check.state("24 never", z::repair);
         HexTemplates c = Check.with("F{n:b=#s;s:s(n*0+100);}", Check.many(102));
@@ -374,6 +380,7 @@ public final class EditsTest {
         Check.file("26 moved", moved, 9, 9, 2, 3, 8, 8, 5, 6);
         Check.state("26 not ahead", () -> two(a, b, 1, 9, 3, 4, 5, 6, 7).patch(0, 1));
         Check.state("26 not behind", () -> two(a, b, 1, 2, 3, 4, 5, 9, 7).patch(0, 1));
+        Check.state("26 no bytes behind the file", () -> two(row(5, 1, 0), row(6, 1, 0), 5, 1).patch(0, 1));
         Check.state("26 not these bytes", () -> two(a, b, 1, 2, 3, 9, 5, 6, 7).patch(0, 1));
         Check.state("26 cut off ahead", () -> two(a, b, 3, 4, 5, 6, 7).patch(0, 1));
         Check.state("26 cut off behind", () -> two(a, b, 1, 2, 3, 4, 5).patch(0, 1));

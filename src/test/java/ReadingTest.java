@@ -217,6 +217,7 @@ public final class ReadingTest {
         HexTemplates n = Check.with("F{a:A[2];b:b=+a;}A{c:b=#d;d:s(2);}", 2, 7, 7, 3, 7, 7, 33);
         Check.due("14 in elements", n.wrong(), 1);
         Check.due("15 in elements", n.wrongByAll(), 1);
+        Check.due("15 asked first", Check.with("F{a:b=#b;b:s(1);}", 9, 9).wrongByAll(), 1);
         HexTemplates none = Check.with("F{a:b=#b;b:s(9);}", 1);
         Check.due("14 without a template", none.wrong(), 0);
         Check.due("15 without a template", none.wrongByAll(), 0);
@@ -234,6 +235,8 @@ public final class ReadingTest {
         Check.index("16 too far", () -> x.follow(7));
         Check.index("16 below", () -> x.follow(-1));
         Check.due("12 the nodes stay", x.nodes(), 7);
+        Check.due("16 no bytes are missing of none", Check.with("F{a:rG;}G{s:s(0);}", 200).follow(1), 0);
+        Check.due("16 a byte is missing behind the end", Check.with("F{a:rG;}G{z:z;}", 200).follow(1), HexTemplates.NONE);
         HexTemplates y = Check.with("A{r:rA;n:b;a:A[n];}", 0, 1, 2, 1, 0, 1, 0, 1, 0, 0);
         Check.due("16 all anew", y.follow(1), 10);
         Check.due("16 an inner one", y.follow(5), y.node(0, 3) - 2);
@@ -251,6 +254,9 @@ public final class ReadingTest {
         Check.due("17 two", y.chain(1), 2);
         Check.due("17 none", Check.with("F{a:rG;}G{x:w;}", 0).chain(1), 0);
         Check.due("17 one that ends", Check.with("F{a:rG;}G{x:b;}", 0).chain(1), 1);
+        HexTemplates far = Check.with("F{a:rG;b:rG;}G{s:s(0);}", 255, 0);
+        Check.due("17 behind the end", far.chain(1), 1);
+        Check.due("17 once more", far.chain(1), 1);
         Check.due("17 a loop of one", Check.with("F{a:rF;}", 0).chain(1), HexTemplates.LOOPS);
         Check.due("17 a loop behind a start", Check.with("F{a:rG;}G{x:rG;}", 1, 2, 3, 2).chain(1), HexTemplates.LOOPS);
         Check.due("17 the same offset, another Name",

@@ -89,6 +89,11 @@ public final class StatesTest {
         Check.state("4 fifth", () -> Check.template(x, "F{}", 0));
         Check.argument("4 fifth, rank first", () -> x.template(10));
         Check.due("4 used up by a fifth", x.feed(1, 1), 1);
+        HexTemplates again = new HexTemplates();
+        for (int k = 0; k < 60; k++) {
+            Check.state("4 none", () -> Check.template(again, "F{a:b;b:s(1+1+1);c:n3;d:A|A|A;", 0));
+        }
+        Check.due("4 what was none leaves nothing", Check.template(again, "F{a:b=#b;b:s(1+1-2+1);c:n3;d:n5;e:A;}A{a:b;}", 0), 0);
         HexTemplates y = Check.with("F{a:b;}", 1);
         Check.state("4 none behind one", () -> Check.template(y, "F{c:b;d:b;e:b;", 9));
         Check.due("4 the first one stays", y.nodes(), 2);
@@ -129,7 +134,8 @@ public final class StatesTest {
             "F{a:b=;}", "F{a:b=1234;}", "F{a:b=b;b:b;}", "F{a:b=#a;}", "F{a:b=#b;}", "F{a:b=#;}", "F{a:b=-1;}",
             "F{a:b=%b;b:b;}", "F{a:b=%b;b:F;}", "F{a:b=%b;b:s(1);}", "F{a:n8=1;}", "F{a:rF=1;}", "F{a:z=1;}",
             "F{a:s(1)=1;}", "F{a:F=1;}", "F{a:b==1;}", "F{a:b=*b;b:b;}", "F{a:b,}", "F(a:b;)", "F{a:bb;}", "F{a:b;;}",
-            "F{a:W[2];}", "F{a:F|W;}", "F{a:b=#B;B:b;}", "F{a:s(A);}", "F{a:n8;b:n4;}", "F{a:b=1+1;}"};
+            "F{a:W[2];}", "F{{:b;}", "F{`:b;}", "[{a:b;}", "@{a:b;}", "F{a:[;}", "F{a:r@;}", "F{a:s(/);}", "F{a:s(:);}",
+             "F{a:F|W;}", "F{a:b=#B;B:b;}", "F{a:s(A);}", "F{a:n8;b:n4;}", "F{a:b=1+1;}"};
         for (String text : bad) {
             Check.due("4 " + text, isTemplate(text) ? 1 : 0, 0);
         }
