@@ -648,6 +648,21 @@ public final class HexTemplates {
             return isRelatable(field) || sign == 'r' || sign == 'n';
         }
 
+        /** The kind of the nodes of a field without structures. */
+        int kindOf(int field) {
+            switch (type[field]) {
+                case 's':
+                case 'z':
+                    return STRING;
+                case 'n':
+                    return BITS;
+                case 'r':
+                    return REFERENCE;
+                default:
+                    return NUMBER;
+            }
+        }
+
         boolean isRelatable(int field) {
             int sign = type[field];
             return sign == 'b' || sign == 'w' || sign == 'W';
@@ -1121,29 +1136,28 @@ public final class HexTemplates {
             return isFine;
         }
 
-        /** Reads a field without structures; it makes a node if it has no fault of its own. */
+        /** Reads a field without structures; its node counts from where it begins, whatever fault it may have. */
         private boolean readPlain(int field, int parent, int frame) {
+            int kind = template.kindOf(field);
+            int node = make(kind, field, parent);
+            if (node == NONE) {
+                return false;
+            }
             boolean isFine;
-            int kind;
             switch (template.type[field]) {
                 case 's':
-                    kind = STRING;
                     isFine = measureCounted(field, frame);
                     break;
                 case 'z':
-                    kind = STRING;
                     isFine = measureEnded(frame);
                     break;
                 case 'n':
-                    kind = BITS;
                     isFine = measureBits(field, frame);
                     break;
                 default:
-                    kind = template.type[field] == 'r' ? REFERENCE : NUMBER;
                     isFine = measureNumber(field, frame);
             }
-            int node = isFine ? make(kind, field, parent) : NONE;
-            if (node == NONE) {
+            if (!isFine) {
                 return false;
             }
             table.tell(node, template.name[field], lengths[frame], values[frame]);
@@ -1231,6 +1245,10 @@ public final class HexTemplates {
             int start = at;
             int frame = depth * FIELD_LIMIT;
             int way = template.way[field];
+            int node = make(ARRAY, field, parent);
+            if (node == NONE) {
+                return false;
+            }
             int count = 0;
             if (way == Template.BY_SUM || way == Template.BY_CONDITION) {
                 count = reckonSum(field, frame);
@@ -1240,10 +1258,6 @@ public final class HexTemplates {
             }
             if (way == Template.BY_CONDITION && count != 0) {
                 count = 1;
-            }
-            int node = make(ARRAY, field, parent);
-            if (node == NONE) {
-                return false;
             }
             if (way == Template.BY_ALL) {
                 count = readWhileFine(field, node, depth);

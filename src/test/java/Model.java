@@ -203,16 +203,16 @@ public final class Model {
             int start = at;
             int length = 1;
             int value;
-            int kind = 2;
             char c = f.first();
+            int kind = c == 's' || c == 'z' ? 5 : c == 'r' ? 3 : c == 'n' ? 4 : 2;
+            Node n = make(kind, f.name - 'a', parent, start);
+            n.field = f;
             if (c == 's') {
-                kind = 5;
                 length = sum(f.inside(), told);
                 if (length < 0 || length > 100) throw new Fault(3, start);
                 if (length > 0 && start + length > bytes.length) throw new Fault(1, start);
                 value = length == 0 ? -1 : bytes[start];
             } else if (c == 'z') {
-                kind = 5;
                 int end = start;
                 while (end < bytes.length && bytes[end] != 0) end++;
                 if (end >= bytes.length) throw new Fault(1, start);
@@ -225,9 +225,7 @@ public final class Model {
             } else {
                 if (start >= bytes.length) throw new Fault(1, start);
                 value = bytes[start];
-                if (c == 'r') kind = 3;
                 if (c == 'n') {
-                    kind = 4;
                     int bits = f.type.charAt(1) - '0';
                     String all = String.format("%8s", Integer.toBinaryString(value)).replace(' ', '0');
                     value = Integer.parseInt(all.substring(bit, bit + bits), 2);
@@ -236,8 +234,6 @@ public final class Model {
             if (f.relation != null && Character.isDigit(f.relation.charAt(0)) && value != Integer.parseInt(f.relation)) {
                 throw new Fault(2, start);
             }
-            Node n = make(kind, f.name - 'a', parent, start);
-            n.field = f;
             n.length = length;
             n.value = value;
             if (f.isNumeric()) told.put(f.name, value);
@@ -256,6 +252,8 @@ public final class Model {
             int start = at;
             String in = f.inside();
             char way = in.charAt(0);
+            Node n = make(1, f.name - 'a', parent, start);
+            n.field = f;
             int count = -1;
             if (way == '?') {
                 count = sum(in.substring(1), told) == 0 ? 0 : 1;
@@ -263,8 +261,6 @@ public final class Model {
                 count = sum(in, told);
                 if (count < 0 || count > 20) throw new Fault(3, start);
             }
-            Node n = make(1, f.name - 'a', parent, start);
-            n.field = f;
             if (way == '*') {
                 while (true) {
                     int before = at;

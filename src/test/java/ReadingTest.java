@@ -8,6 +8,11 @@ public final class ReadingTest {
         tries();
         deep();
         many();
+        manyOfFields();
+        manyOfArrays();
+        manyOfNames();
+        manyOfTries();
+        manyOrDeep();
         nodes();
         bits();
         relations();
@@ -141,14 +146,134 @@ public final class ReadingTest {
         Check.due("11 with a try 201", Check.fault(form, Check.many(99)), 5099);
         Check.due("11 an element", Check.fault(form, Check.many(160)), 5099);
         Check.due("11 a field", Check.fault("F{a:A[*];}A{x:b;y:b;z:b;}", Check.many(160)), 5148);
-        // 2 nodes, and 4 for each byte: A in vain, and B with x and y in it
-        Check.due("11 tries count", Check.fault("F{a:A|B[*];}A{y:b=2;}B{x:b;y:C;}C{}", Check.many(160)), 5050 - 1);
+        // 2 nodes, and 5 for each byte: A and its y in vain, and B with x and y in it
+        Check.due("11 tries count", Check.fault("F{a:A|B[*];}A{y:b=2;}B{x:b;y:C;}C{}", Check.many(160)), 5039);
         Check.due("11 not for a try", Check.fault("F{a:G|H;}G{a:A[*];}H{}A{x:b;}", Check.many(160)), 5098);
         Check.due("11 20 of 20", Check.fault("F{a:A[20];}A{x:B[20];}B{}", 1), 5000);
         HexTemplates x = Check.with("F{a:A[9];}A{x:B[20];}B{}");
         Check.due("12 200 nodes", x.nodes(), 2 + 9 * 22);
         Check.node("13 the last one", x, 199, 0, 1, 0, 0, 1, 179);
         Check.index("13 behind it", () -> x.node(200, 0));
+    }
+
+    /** Looks at the fault of a field x at the offset 1: behind 199 nodes its own one, behind 200 nodes MANY. */
+    private static void last(String type, int fault, int... bytes) {
+        Check.due("11 behind 199 nodes, " + type, late(19, type, bytes), fault);
+        Check.due("11 behind 200 nodes, " + type, late(20, type, bytes), 5001);
+    }
+
+    /** The fault of a field x behind 180 nodes and as many elements as told. */
+    private static int late(int elements, String type, int... bytes) {
+        int[] all = Check.many(bytes.length + 1, elements);
+        System.arraycopy(bytes, 0, all, 1, bytes.length);
+        return Check.fault("F{h:b;a:A[8];c:B[h];x:" + type + ";}A{x:B[20];}B{}C{y:b=9;}D{y:b;z:w;}", all);
+    }
+
+    private static void manyOfFields() {
+        last("b", 1001);
+        last("w", 1001, 1);
+        last("W", 1001, 1);
+        last("rB", 1001);
+        last("n8", 1001);
+        last("n4;y:n4", 1001);
+        last("s(2)", 1001, 1);
+        last("z", 1001, 1, 2);
+        last("b=9", 1001);
+        last("b=9", 2001, 8);
+        last("w=9", 2001, 9, 9);
+        last("W=9", 2001, 9, 9);
+        last("s(101)", 3001, Check.many(110));
+        last("s(0-1)", 3001, 1);
+        last("b", -1, 1);
+        last("w", -1, 1, 2);
+        last("rB", -1, 1);
+        last("n8", -1, 1);
+        last("s(0)", -1);
+        last("s(2)", -1, 1, 2);
+        last("z", -1, 1, 0);
+        last("b=9", -1, 9);
+        Check.due("11 the second of two bits", late(19, "n4;y:n4", 1), 5001);
+    }
+
+    private static void manyOfArrays() {
+        last("B[21]", 3001);
+        last("B[0-1]", 3001);
+        last("B[!9]", 1001);
+        last("B[!9]", -1, 9);
+        last("B[0]", -1);
+        last("B[?0]", -1);
+        // the array is the 200th node, and its element, also one that is tried in vain, is one more
+        last("B[1]", 5001);
+        last("B[?1]", 5001);
+        last("B[*]", 5001);
+        last("B[!9]", 5001, 1);
+        last("D[*]", 5001);
+        Check.due("11 the field of an element out", late(17, "D[1]"), 1001);
+        Check.due("11 the field of an element is one too many", late(18, "D[1]"), 5001);
+        Check.due("11 a later field of an element out", late(16, "D[1]", 7, 7), 1002);
+        Check.due("11 a later field of an element is one too many", late(17, "D[1]", 7, 7), 5002);
+        Check.due("11 a try behind the last element out", late(15, "D[*]", 7, 7, 7), 5004);
+        Check.due("11 with room for that try", late(13, "D[*]", 7, 7, 7), -1);
+        Check.due("11 an array by ! without its end", late(16, "D[!9]", 7, 7, 7), 1001);
+        Check.due("11 an array by ! with an element too many", late(16, "D[!9]", 7, 7, 7, 7), 5004);
+    }
+
+    private static void manyOfNames() {
+        last("B", -1);
+        last("C", 5001, 8);
+        last("C|B", 5001, 8);
+        Check.due("11 a field of a structure", late(18, "C", 8), 2001);
+        Check.due("11 a try behind one in vain", late(18, "C|B", 8), 5001);
+        Check.due("11 with room for both tries", late(17, "C|B", 8), -1);
+        Check.due("11 a later field of a structure", late(18, "D", 8, 8), 5002);
+        Check.due("11 with room for it", late(17, "D", 8, 8), 1002);
+        // the sum of s and that of an array in a structure that is tried
+        Check.due("11 a sum in a try", Check.fault("F{a:A[8];c:B[20];x:E|B;}A{x:B[20];}B{}E{y:s(101);}"), 5000);
+        Check.due("11 with room for it", Check.fault("F{a:A[8];c:B[18];x:E|B;}A{x:B[20];}B{}E{y:s(101);}"), -1);
+        Check.due("11 a count in a try", Check.fault("F{a:A[8];c:B[20];x:E|B;}A{x:B[20];}B{}E{y:B[21];}"), 5000);
+        Check.due("11 with room for it", Check.fault("F{a:A[8];c:B[18];x:E|B;}A{x:B[20];}B{}E{y:B[21];}"), -1);
+    }
+
+    /** Each element makes 4 nodes: B and its field in vain, and then C and its field. */
+    private static void manyOfTries() {
+        for (String fault : new String[] {"b=1", "W=1", "s(101)", "z", "s(99)", "F[21]"}) {
+            String form = "F{x:B|C[*];}B{a:" + fault + ";}C{a:b;}";
+            int[] bytes = new int[49];
+            for (int k = 0; k < bytes.length; k++) {
+                bytes[k] = 9;
+            }
+            Check.due("11 49 elements behind " + fault, Check.fault(form, bytes), 5049);
+            Check.due("11 48 elements behind " + fault, Check.with(form, java.util.Arrays.copyOf(bytes, 48)).nodes(), 98);
+        }
+        // an element twice is one more: refused, as it would be MANY
+        HexTemplates x = Check.with("F{x:B|C[*];}B{a:b=1;}C{a:b;}", new int[48]);
+        Check.state("23 too many nodes in vain", () -> x.element(1, 0, true));
+        Check.due("23 one less", x.element(1, 0, false), 1);
+        Check.due("23 and one more", x.element(1, 0, true), 2);
+    }
+
+    /** What is too deep is no node, and so DEEP also behind 200 nodes. */
+    private static void manyOrDeep() {
+        Check.due("11 a deep structure behind 200", Check.fault("A{n:b;c:B[n];a:A;}B{x:b;}", levels(91)), 4097);
+        Check.due("11 many ahead of it", Check.fault("A{n:b;c:B[n];a:A;}B{x:b;}", levels(92)), 5097);
+        // the deepest one has only deep ones in it; the B in place of it is one too many
+        Check.due("11 a try in place of it", Check.fault("A{n:b;c:B[n];a:A|B;}B{x:b;}", levels(91)), 5096);
+        Check.due("11 a deep element behind 200", Check.fault("A{n:b;c:B[n];a:A[1];}B{x:b;}", levels(88)), 4094);
+        // the deepest array by * has none; the one in which it is tries one element more
+        Check.due("11 a try behind a deep one", Check.fault("A{n:b;c:B[n];a:A[*];}B{x:b;}", levels(88)), 5094);
+    }
+
+    /** Bytes for structures in five others, with so many elements in all, none in the deepest one. */
+    private static int[] levels(int elements) {
+        int[] all = Check.many(elements + 6);
+        int at = 0;
+        for (int left = elements, level = 0; level < 6; level++) {
+            int own = level == 5 ? 0 : Math.min(left, 20);
+            all[at] = own;
+            at += own + 1;
+            left -= own;
+        }
+        return all;
     }
 
     private static void nodes() {
