@@ -245,6 +245,13 @@ public final class ReadingTest {
             Check.due("11 49 elements behind " + fault, Check.fault(form, bytes), 5049);
             Check.due("11 48 elements behind " + fault, Check.with(form, java.util.Arrays.copyOf(bytes, 48)).nodes(), 98);
         }
+        String told = "F{r:rG;}G{x:B|C[*];}B{a:b=1;}C{a:b;}";
+        HexTemplates y = Check.with(told, java.util.Arrays.copyOf(new int[] {1}, 49));
+        Check.due("16 48 elements", y.follow(1), 48);
+        Check.due("17 48 elements", y.chain(1), 1);
+        HexTemplates z = Check.with(told, java.util.Arrays.copyOf(new int[] {1}, 50));
+        Check.due("16 49 elements", z.follow(1), HexTemplates.NONE);
+        Check.due("17 49 elements", z.chain(1), 0);
         // an element twice is one more: refused, as it would be MANY
         HexTemplates x = Check.with("F{x:B|C[*];}B{a:b=1;}C{a:b;}", new int[48]);
         Check.state("23 too many nodes in vain", () -> x.element(1, 0, true));
