@@ -9,6 +9,14 @@ final class Check {
         long answer();
     }
 
+    interface Maker {
+        HexTemplates make();
+    }
+
+    interface Use {
+        long on(HexTemplates x);
+    }
+
     static void due(String what, long got, long want) {
         if (got != want) {
             wrong++;
@@ -40,6 +48,77 @@ final class Check {
         }
         wrong++;
         System.out.println(what + " " + got + ", due is throws." + due.getSimpleName());
+    }
+
+    static void index(String what, Maker maker, Use call) {
+        unchanged(what, IndexOutOfBoundsException.class, maker, call, maker);
+    }
+
+    static void argument(String what, Maker maker, Use call) {
+        unchanged(what, IllegalArgumentException.class, maker, call, maker);
+    }
+
+    static void state(String what, Maker maker, Use call) {
+        unchanged(what, IllegalStateException.class, maker, call, maker);
+    }
+
+    /** A call throws what is due, and all that can be asked for is then as it is of another object. */
+    static void unchanged(String what, Class<?> due, Maker maker, Use call, Maker other) {
+        HexTemplates x = maker.make();
+        refused(what, due, () -> call.on(x));
+        String got = all(x);
+        String want = all(other.make());
+        if (!got.equals(want)) {
+            wrong++;
+            System.out.println(what + " has changed something:\n  " + got + "\n  due is\n  " + want);
+        }
+    }
+
+    /** All that can be asked for, the tape too; this edits the object and gives it a file, if it can. */
+    static String all(HexTemplates x) {
+        StringBuilder text = new StringBuilder();
+        tell(text, "state", x::state);
+        file(text, x);
+        tell(text, "wrong", x::wrong);
+        tell(text, "by all", x::wrongByAll);
+        for (int k = 0; k < 4; k++) {
+            int template = k;
+            tell(text, "fault", () -> x.fault(template, false));
+            tell(text, "at", () -> x.fault(template, true));
+        }
+        for (int k = 0; k < Math.min(20, x.nodes()); k++) {
+            for (int what = 0; what < 7; what++) {
+                text.append(' ').append(x.node(k, what));
+            }
+        }
+        for (int k = 0; k < 30; k++) {
+            int state = k;
+            tell(text, "parent", () -> x.parent(state));
+        }
+        tell(text, "hunk", () -> x.hunk(0, 1, 0) * 10000 + x.hunk(0, 1, 1) * 100 + x.hunk(0, 1, 2));
+        tell(text, "repair", x::repair);
+        file(text, x);
+        tell(text, "feed", () -> x.feed(7, 1));
+        tell(text, "give", x::give);
+        file(text, x);
+        return text.toString();
+    }
+
+    private static void file(StringBuilder text, HexTemplates x) {
+        text.append(" chosen ").append(x.chosen()).append(" nodes ").append(x.nodes()).append(" file");
+        for (int k = 0; k < Math.min(20, x.size()); k++) {
+            text.append(' ').append(x.byteAt(k));
+        }
+        text.append(" of ").append(x.size());
+    }
+
+    private static void tell(StringBuilder text, String what, Call call) {
+        text.append(' ').append(what).append(' ');
+        try {
+            text.append(call.answer());
+        } catch (RuntimeException e) {
+            text.append(e.getClass().getSimpleName());
+        }
     }
 
     static void end() {

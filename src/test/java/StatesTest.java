@@ -9,6 +9,8 @@ public final class StatesTest {
         noTemplates();
         size();
         states();
+        longFiles();
+        calls();
         Check.end();
     }
 
@@ -184,5 +186,51 @@ public final class StatesTest {
         Check.due("8 its parent", x.parent(3), 2);
         x.goTo(2);
         Check.file("9 the state stays as it was", x, 9, 9, 9);
+    }
+
+    /** 30 states of 160 bytes. */
+    private static void longFiles() {
+        HexTemplates x = new HexTemplates();
+        for (int k = 0; k < 30; k++) {
+            int[] all = Check.many(160, k);
+            all[159] = 200 + k;
+            Check.due("3 state", Check.give(x, all), k);
+        }
+        for (int k = 0; k < 30; k++) {
+            Check.due("9 160 bytes", x.goTo(k), 160);
+            Check.due("6 the first one", x.byteAt(0), k);
+            Check.due("6 the last one", x.byteAt(159), 200 + k);
+            Check.due("6 one of them", x.byteAt(80), 1);
+        }
+        Check.state("3 a 31st one", () -> Check.give(x, 1));
+        Check.due("25 the first and the last one", x.hunk(0, 29, 1), 160);
+    }
+
+    /** "An object is used for at most 512 calls": the last ones of them answer as the first ones do. */
+    private static void calls() {
+        HexTemplates x = Check.with("F{n:b=#s;s:s(n);c:b=+s;}", 2, 5, 6, 11);
+        // the 24 signs of the template, the 4 bytes, and what takes them over
+        int calls = 24 + 1 + 4 + 1;
+        for (int state = 1; state < 30; state++) {
+            Check.due("21 an edit", x.insert(2, 0, state), state);
+            calls++;
+        }
+        for (int round = 0; calls + 9 <= 512; round++) {
+            int from = round % 30;
+            Check.due("9 go to " + from, x.goTo(from), 4 + from);
+            Check.due("7 state", x.state(), from);
+            Check.due("10 chosen", x.chosen(), 0);
+            Check.due("14 wrong", x.wrong(), 0);
+            Check.due("12 nodes", x.nodes(), 4);
+            Check.due("13 the string", x.node(2, 3), 2 + from);
+            Check.due("25 the hunk", x.hunk(0, from, 2), from == 0 ? 0 : 4 + from);
+            Check.state("24 a 31st state", x::repair);
+            Check.due("18 what is behind", x.find(0, 0, 4 + from), HexTemplates.NONE);
+            calls += 9;
+        }
+        while (calls < 512) {
+            Check.due("5 size", x.size() > 0 ? 1 : 0, 1);
+            calls++;
+        }
     }
 }
