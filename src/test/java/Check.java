@@ -60,6 +60,18 @@ final class Check {
 
     static void state(String what, Maker maker, Use call) {
         unchanged(what, IllegalStateException.class, maker, call, maker);
+        Maker taped = () -> withTape(maker);
+        unchanged(what + ", with a tape", IllegalStateException.class, taped, call, taped);
+    }
+
+    private static HexTemplates withTape(Maker maker) {
+        HexTemplates x = maker.make();
+        try {
+            x.feed(0x4241, 2);
+        } catch (IllegalStateException e) {
+            // the tape is full: what is on it has to stay there all the same
+        }
+        return x;
     }
 
     /** A call throws what is due, and all that can be asked for is then as it is of another object. */

@@ -15,6 +15,7 @@ public final class EditBoundsTest {
         strings();
         elements();
         sameTemplate();
+        chosenTemplate();
         rounds();
         sums();
         allHold();
@@ -299,6 +300,14 @@ public final class EditBoundsTest {
         Check.file("23 the second taken out", x, 6, 2, 1, 1, 7, 1, 5, 1, 6);
         x.element(5, 0, false);
         Check.file("23 the last one taken out", x, 4, 0, 0, 1, 5, 1, 6);
+        // the new length, also if the old one was not as it should be: s has 3 bytes then, but 91 are not there
+        HexTemplates w = Check.with("F{n:b=#t;t:z;s:s(n);}", with(with(Check.many(93, 90), 1, 5), 2, 0));
+        Check.due("14 the length is wrong", w.wrong(), 1);
+        Check.due("21 the new length", w.insert(2, 0, 7), 1);
+        Check.due("21 it is that", w.byteAt(0), 3);
+        HexTemplates v = Check.with("F{n:b=#t;t:z;s:s(n);}", 0, 5, 6, 0, 1, 1);
+        Check.due("22 the new length", v.remove(2, 0), 1);
+        Check.file("22 it is that", v, 2, 6, 0, 1, 1);
         // a length of two bytes, the higher one first, around a string of 0 bytes
         HexTemplates y = Check.with("F{l:W=#g;m:w=#g;g:G;}G{n:b=#s;s:s(n);}", 0, 1, 1, 0, 0);
         Check.due("21 into none", y.insert(5, 0, 200), 1);
@@ -328,6 +337,22 @@ public final class EditBoundsTest {
         x.goTo(0);
         x.element(3, 0, false);
         Check.file("23 n and p are 0", x, 0, 2, 0, 0, 1, 8, 9, 0, 0);
+        // the new count, also if the old one was not as it should be: s has 2 bytes then, but 91 are not there
+        HexTemplates w = Check.with("F{n:b=%a;a:E[!9];s:s(n);}E{x:b;}", with(Check.many(92, 90), 2, 9));
+        Check.due("14 the count is wrong", w.wrong(), 1);
+        Check.due("23 the new count", w.element(2, 0, true), 1);
+        Check.due("23 it is that", w.byteAt(0), 2);
+        HexTemplates v = Check.with("F{n:b=%a;a:E[!9];s:s(n);}E{x:b;}", 0, 5, 6, 9, 1);
+        Check.due("23 the new count", v.element(2, 0, false), 1);
+        Check.file("23 it is that", v, 1, 6, 9, 1);
+        // all that tell of the array: the second one is how many it has
+        for (String form : new String[] {"F{o:b=%a;n:b=%a;a:E[n];z:z;}E{x:b;}", "F{n:b=%a;o:b=%a;a:E[n];z:z;}E{x:b;}"}) {
+            HexTemplates z = Check.with(form, 2, 2, 5, 6, 7, 8, 0);
+            z.element(3, 1, true);
+            Check.file("23 each one of two, " + form, z, 3, 3, 5, 6, 6, 7, 8, 0);
+            z.element(3, 0, false);
+            Check.file("23 each one of two, " + form, z, 2, 2, 6, 6, 7, 8, 0);
+        }
         HexTemplates y = Check.with("F{n:b=%a;a:E[n];}E{}", 20);
         Check.state("23 21 elements", () -> y.element(2, 0, true));
         y.element(2, 19, false);
@@ -450,6 +475,31 @@ public final class EditBoundsTest {
                 Check.file("20 then there are none", z, n, n, 7, 8);
             } else {
                 Check.state("20 " + (n - 5) + " bytes are not there", maker, w -> w.set(1, one));
+            }
+        }
+    }
+
+    /** "An edit is made in the file as it is read by its template": not by the first one told, or by one with a lower rank. */
+    private static void chosenTemplate() {
+        String[] others = {"F{a:b;b:b;c:b=7;}", "F{s:s(4);}", "F{n:b=#s;s:s(1);c:b=7;}", "F{n:b=#s;c:b=+s;s:s(1);}"};
+        for (String other : others) {
+            for (int place = 0; place < 2; place++) {
+                HexTemplates x = new HexTemplates();
+                for (int k = 0; k < 2; k++) {
+                    Check.template(x, k == place ? "F{n:b=#s;s:s(n);c:b=+s;e:b;}" : other, k == place ? 6 : 5);
+                }
+                String what = " by the template " + place + " beside " + other;
+                Check.give(x, 1, 7, 7, 9);
+                Check.due("10" + what, x.chosen(), place);
+                Check.due("21" + what, x.insert(2, 1, 3), 1);
+                Check.file("21" + what, x, 2, 7, 3, 10, 9);
+                Check.due("22" + what, x.remove(2, 0), 2);
+                Check.file("22" + what, x, 1, 3, 3, 9);
+                Check.due("20" + what, x.set(4, 8), 3);
+                Check.file("20" + what, x, 1, 3, 3, 8);
+                Check.give(x, 1, 7, 8, 9);
+                Check.due("24" + what, x.repair(), 5);
+                Check.file("24" + what, x, 1, 7, 7, 9);
             }
         }
     }

@@ -469,6 +469,7 @@ public final class ReadingBoundsTest {
                 Check.due("10 none", x.chosen(), HexTemplates.NONE);
             }
         }
+        chosenAlone();
         HexTemplates y = new HexTemplates();
         for (int k = 0; k < 4; k++) {
             Check.template(y, "F{a:b;b:b=" + k + ";}", k == 3 ? 0 : 5);
@@ -482,6 +483,31 @@ public final class ReadingBoundsTest {
             for (int t = 0; t < 4; t++) {
                 Check.due("11 of state " + k + " by " + t, y.fault(t, false), t == k ? 0 : HexTemplates.MAGIC);
                 Check.due("11 its offset", y.fault(t, true), t == k ? HexTemplates.NONE : 1);
+            }
+        }
+    }
+
+    /** Nodes, relations, references and searches are those of the template of the file, whatever others are told or asked for. */
+    private static void chosenAlone() {
+        HexTemplates x = new HexTemplates();
+        Check.template(x, "F{a:b;r:rG;l:b=#s;s:s(3);x:b;}G{x:b;}", 3);
+        Check.template(x, "F{k:b=1;r:rG;l:b=#s;s:s(2);}G{x:w;y:rH;}H{}", 7);
+        Check.template(x, "F{c:b;r:rG;l:b=#s;s:s(1);}G{x:b=9;}", 5);
+        Check.give(x, 1, 3, 2, 6, 7, 8, 4);
+        for (int other = 0; other < 3; other++) {
+            for (boolean isOffset : new boolean[] {false, true}) {
+                Check.due("11 fine by all", x.fault(other, isOffset), isOffset ? HexTemplates.NONE : HexTemplates.FINE);
+                Check.due("10 by the greatest rank", x.chosen(), 1);
+                Check.due("12 its nodes", x.nodes(), 5);
+                Check.node("13 its first field", x, 1, HexTemplates.NUMBER, 10, 0, 1, 1, 0, 1);
+                Check.node("13 its string", x, 4, HexTemplates.STRING, 18, 3, 2, 6, 0, 1);
+                Check.due("14 its relation", x.wrong(), 0);
+                Check.due("15 its relation", x.wrongByAll(), 0);
+                Check.due("16 its reference", x.follow(2), 3);
+                Check.due("17 its reference, and the next one", x.chain(2), 2);
+                Check.due("12 its nodes behind that", x.nodes(), 5);
+                Check.due("19 its fields", x.findField(10, 1, 0), 1);
+                Check.due("19 not those of others", x.findField(0, 1, 0) + x.findField(2, 1, 0), 2 * HexTemplates.NONE);
             }
         }
     }

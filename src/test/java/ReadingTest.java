@@ -266,8 +266,23 @@ public final class ReadingTest {
         // the deepest one has only deep ones in it; the B in place of it is one too many
         Check.due("11 a try in place of it", Check.fault("A{n:b;c:B[n];a:A|B;}B{x:b;}", levels(91)), 5096);
         Check.due("11 a deep element behind 200", Check.fault("A{n:b;c:B[n];a:A[1];}B{x:b;}", levels(88)), 4094);
+        deepIsNoNode();
         // the deepest array by * has none; the one in which it is tries one element more
         Check.due("11 a try behind a deep one", Check.fault("A{n:b;c:B[n];a:A[*];}B{x:b;}", levels(88)), 5094);
+    }
+
+    /** "also that of a structure for each Name that is tried and not DEEP": DEEP ones don't count, however many are tried. */
+    private static void deepIsNoNode() {
+        // 6 nodes, 3 for each byte, and 2 for the element that is tried at the end; each x tries one or more that are DEEP
+        for (String names : new String[] {"A", "A|B", "A|A|A|A|A|A"}) {
+            String form = "A{a:B;}B{a:C;}C{a:D;}D{a:E;}E{a:F[*];}F{b:b;x:" + names + "[*];}";
+            Check.due("12 deep ones by " + names, Check.with(form, Check.many(64)).nodes(), 198);
+            Check.due("11 no node more by " + names, Check.fault(form, Check.many(65)), 5065);
+        }
+        // F has a DEEP element at the offset 1; A, which is tried then, has a DEEP structure at the offset 0
+        String names = "A{a:B;}B{a:C;}C{a:D;}D{a:E;}E{x:F|A;}F{a:b;b:A|B|C[!0];}";
+        Check.due("11 a DEEP element", Check.fault(names, 1, 1, 0), 4000);
+        Check.due("11 without one", Check.fault(names, 1, 0), -1);
     }
 
     /** Bytes for structures in five others, with so many elements in all, none in the deepest one. */

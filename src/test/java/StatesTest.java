@@ -9,6 +9,7 @@ public final class StatesTest {
         noTemplates();
         size();
         states();
+        tapeStays();
         longFiles();
         calls();
         Check.end();
@@ -186,6 +187,27 @@ public final class StatesTest {
         Check.due("8 its parent", x.parent(3), 2);
         x.goTo(2);
         Check.file("9 the state stays as it was", x, 9, 9, 9);
+    }
+
+    /** "who takes it over uses it up": give and template alone, whatever else is called. */
+    private static void tapeStays() {
+        HexTemplates x = Check.with("F{n:b=#s;s:s(n);a:A[!9];e:b;r:rF;}A{x:b;}", 2, 5, 6, 7, 8, 9, 0);
+        Check.due("2 on the tape", x.feed(0x131211, 3), 3);
+        Check.Call[] calls = {x::size, x::state, x::chosen, x::nodes, x::wrong, x::wrongByAll, x::repair, () -> x.byteAt(0),
+            () -> x.parent(0), () -> x.goTo(0), () -> x.fault(0, false), () -> x.node(0, 0), () -> x.follow(9),
+            () -> x.chain(9), () -> x.find(1, 1, 0), () -> x.findField(0, 0, 0), () -> x.set(9, 0), () -> x.insert(2, 0, 1),
+            () -> x.remove(2, 0), () -> x.element(3, 0, true), () -> x.element(3, 0, false), () -> x.hunk(0, 1, 0),
+            () -> x.patch(0, 1)};
+        for (int k = 0; k < calls.length; k++) {
+            Check.due("2 call " + k + " throws nothing", calls[k].answer() >= HexTemplates.LOOPS ? 1 : 0, 1);
+            Check.due("2 the tape behind call " + k, x.feed(0x20 + k, 1), 4 + k);
+        }
+        int[] due = new int[3 + calls.length];
+        for (int k = 0; k < due.length; k++) {
+            due[k] = k < 3 ? 0x11 + k : 0x20 + k - 3;
+        }
+        x.give();
+        Check.file("3 all that has been fed", x, due);
     }
 
     /** 30 states of 160 bytes. */
