@@ -28,7 +28,9 @@ public final class FaceTest {
 
     public static void main(String[] args) throws Exception {
         face();
+        fields();
         source();
+        lengths();
         Check.end();
     }
 
@@ -77,6 +79,46 @@ public final class FaceTest {
             all.append(all.charAt(all.length() - 1) == '(' ? "" : ",").append(p.getName());
         }
         return all.append(')').toString();
+    }
+
+    /** Rules 3, 5 and 11: the types of fields, static ones that are constants, and how many a class has. */
+    private static void fields() {
+        Set<Class<?>> own = new HashSet<>(Arrays.asList(HexTemplates.class.getDeclaredClasses()));
+        own.add(HexTemplates.class);
+        for (Class<?> c : own) {
+            int count = 0;
+            for (Field f : c.getDeclaredFields()) {
+                Class<?> type = f.getType();
+                String what = c.getSimpleName() + "." + f.getName();
+                if (Modifier.isStatic(f.getModifiers())) {
+                    same(what + " is final", Modifier.isFinal(f.getModifiers()), true);
+                    same(what + " is a constant", type == int.class, true);
+                } else {
+                    count++;
+                    Class<?> part = type.isArray() ? type.getComponentType() : type;
+                    same(what + " has a type that is there", part == int.class || part == boolean.class || own.contains(part), true);
+                }
+            }
+            same(c.getSimpleName() + " has some twenty fields", count <= 22, true);
+        }
+    }
+
+    /** Rule 11: methods stay short. */
+    private static void lengths() throws Exception {
+        String name = "";
+        int from = 0;
+        int at = 0;
+        for (String line : Files.readAllLines(Path.of(SOURCE), StandardCharsets.ISO_8859_1)) {
+            at++;
+            if (line.matches(" {4,8}(?! )(?:(?:public|private|static) )*[A-Za-z\\[\\]]+(?: [A-Za-z]+)?\\(.*")) {
+                name = line.trim();
+                from = at;
+            } else if (line.matches(" {4,8}\\}") && from > 0) {
+                same(name + " is short", at - from <= 60, true);
+                from = 0;
+            }
+        }
+        same("methods are found", !name.isEmpty(), true);
     }
 
     private static void source() throws Exception {
